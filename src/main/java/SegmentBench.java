@@ -366,7 +366,7 @@ public final class SegmentBench {
         }
     }
 
-    /** The tokens of a text; a sign that is none ends them, for nothing can go on behind it. */
+    /** The tokens of a text, the last of them its end; a sign that is none is a token of its own. */
     private static final class Tokens {
         /** Kinds below the signs, whose kind is their own character. */
         static final int END = 0;
@@ -451,18 +451,21 @@ public final class SegmentBench {
                 put(NONE, 0, from);
                 return end;
             }
-            int register = ordinal(REGISTERS, text, from, end);
-            int sregister = ordinal(SREGISTERS, text, from, end);
-            int statement = ordinal(STATEMENTS, text, from, end);
-            if (register >= 0) {
-                put(REGISTER, register, from);
-            } else if (sregister >= 0) {
-                put(SREGISTER, sregister, from);
-            } else if (statement >= 0) {
-                put(WORD, statement, from);
-            } else {
-                put(NAME, names.numberOf(packed, from), from);
+            int type = REGISTER;
+            int number = ordinal(REGISTERS, text, from, end);
+            if (number < 0) {
+                type = SREGISTER;
+                number = ordinal(SREGISTERS, text, from, end);
             }
+            if (number < 0) {
+                type = WORD;
+                number = ordinal(STATEMENTS, text, from, end);
+            }
+            if (number < 0) {
+                type = NAME;
+                number = names.numberOf(packed, from);
+            }
+            put(type, number, from);
             return end;
         }
 

@@ -11,6 +11,7 @@ public final class LinkTest {
         fails();
         failsInOrder();
         keepsTheImage();
+        manyFixups();
         limits();
         Check.end();
     }
@@ -52,6 +53,14 @@ public final class LinkTest {
         Check.same("code of 1", Check.image(bench, 20, 40), "0 0 0 0 195 25 0 27 0 24 0 0 0 0 0 0 0 0 0 0");
         Check.same("data", Check.image(bench, 48, 57), "1 1 1 3 0 3 0 24 0");
         Check.due("relocations", () -> bench.count(4), 5);
+        SegmentBench high = Check.modules("seg d 1;ret;seg c 1;space 5;",
+                "seg c 1;public main;main:neg [main+300];neg [main-1];neg [main-6];seg d 16;word @c;");
+        Check.due("high", () -> high.link(), 49);
+        Check.same("in both bytes", Check.image(high, 37, 49), "247 30 49 1 247 30 4 0 247 30 255 255");
+        Check.same("in the second part", Check.image(high, 16, 18), "2 0");
+        SegmentBench first = Check.modules("extern d;seg c 1;public main;main:word @d;", "seg e 1;ret;public d;d:;");
+        Check.due("first", () -> first.link(), 17);
+        Check.same("at 0", Check.image(first, 0, 2), "1 0");
         SegmentBench back = Check.modules("seg c 1;public f;f:ret;", "seg c 1;extern f;public main;main:jmp f;");
         Check.due("back", () -> back.link(), 4);
         Check.same("goes below 0", Check.image(back, 0, 4), "195 233 252 255");
@@ -128,11 +137,26 @@ public final class LinkTest {
         Check.due("loads still", () -> bench.load(3), 0);
     }
 
+    /** As many fixups and relocations as texts can have. */
+    private static void manyFixups() {
+        String offsets = "seg c 1;a:word a" + Check.times(",a", 199) + ";";
+        String paragraphs = "seg d 1;word @d" + Check.times(",@d", 154) + ";";
+        SegmentBench bench = Check.modules(offsets, paragraphs, "seg d 1;public main;main:;");
+        Check.due("200 fixups", () -> bench.count(11), 200);
+        Check.due("the last", () -> bench.fixup(0, 199, 2), 398);
+        Check.due("link", () -> bench.link(), 710);
+        Check.due("relocations", () -> bench.count(4), 155);
+        Check.due("the last paragraph", () -> bench.image(708), 25);
+        Check.due("main", () -> bench.load(9), 310);
+        Check.due("its paragraph", () -> bench.memory(9 * 16 + 708), 34);
+    }
+
     private static void limits() {
         String full = "space 64;space 64;space 64;space 64;space 64;space 64;space 16;";
         SegmentBench bench = Check.modules("seg c 1;public main;main:" + full, "seg c 1;" + full, "seg c 1;" + full);
         Check.due("1200", () -> bench.link(), 1200);
         Check.due("the last", () -> bench.image(1199), 0);
+        Check.due("loads", () -> bench.load(255), 0);
         Check.type(bench, "seg c 1;byte 1;seg d 1;" + full.substring(0, 54) + "space 15;").assemble(2);
         Check.thrown("1200 and what is between", () -> bench.link(), IndexOutOfBoundsException.class);
         Check.failure("1200 and what is between", bench, 9, -1);

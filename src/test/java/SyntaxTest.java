@@ -147,6 +147,7 @@ public final class SyntaxTest {
         stops("neg [di+1+di];", 10);
         stops("neg [a+b];", 7);
         stops("neg [a+a];", 7);
+        stops("neg [c+c];", 7);
         stops("neg [bx-si];", 8);
         stops("neg [bx-x];", 8);
         stops("neg [bx+-1];", 8);

@@ -4,6 +4,7 @@ public final class TextTest {
         ranges();
         limit();
         order();
+        full();
         Check.end();
     }
 
@@ -35,6 +36,33 @@ public final class TextTest {
         Check.due("assemble", () -> bench.assemble(1), 0);
         Check.due("empty", () -> bench.count(0), 0);
         Check.due("room again", () -> bench.append(0x3b, 1), 1);
+    }
+
+    /** Texts of 480 characters that make as many tokens and bytes as they can. */
+    private static void full() {
+        fits(Check.times(";", 480), 0);
+        fits("seg c 1;byte 1" + Check.times(",1", 232) + ";;", 233);
+        fits("seg c 1;" + Check.times("or[1],1;", 59), 354);
+        fits("seg c 1;" + Check.times("c:or[1],1;", 47) + "  ", -1);
+        fits(Check.times("seg a 1;", 60), 0);
+        fits("seg a 1;" + Check.times("a ", 236), -2);
+        StringBuilder names = new StringBuilder("seg a 1;");
+        for (char a = 'b'; a <= 'z'; a++) {
+            names.append("seg ").append(a).append(" 1;").append(a).append("1:;");
+        }
+        fits(names + Check.times(" ", 480 - names.length()), -1);
+    }
+
+    /** -1: a name is wrong; -2: the syntax is. */
+    private static void fits(String text, int want) {
+        SegmentBench bench = Check.type(new SegmentBench(), text);
+        Check.due("480", () -> bench.count(0), 480);
+        if (want >= 0) {
+            Check.due("bytes of " + text, () -> bench.assemble(0), want);
+        } else {
+            Check.thrown("assemble " + text, () -> bench.assemble(0), want == -1
+                    ? java.util.NoSuchElementException.class : UnsupportedOperationException.class);
+        }
     }
 
     private static void order() {
