@@ -157,6 +157,9 @@ public final class LinkTest {
         Check.due("1200", () -> bench.link(), 1200);
         Check.due("the last", () -> bench.image(1199), 0);
         Check.due("loads", () -> bench.load(255), 0);
+        Check.type(bench, "seg c 1;space 64;space 64;space 64;space 64;space 64;space 64;space 14;c1:word c1;").assemble(2);
+        Check.due("1200 again", () -> bench.link(), 1200);
+        Check.same("a fixup at the end", Check.image(bench, 1198, 1200), "174 4");
         Check.type(bench, "seg c 1;byte 1;seg d 1;" + full.substring(0, 54) + "space 15;").assemble(2);
         Check.thrown("1200 and what is between", () -> bench.link(), IndexOutOfBoundsException.class);
         Check.failure("1200 and what is between", bench, 9, -1);

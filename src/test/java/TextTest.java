@@ -5,6 +5,7 @@ public final class TextTest {
         limit();
         order();
         full();
+        ends();
         Check.end();
     }
 
@@ -51,6 +52,21 @@ public final class TextTest {
             names.append("seg ").append(a).append(" 1;").append(a).append("1:;");
         }
         fits(names + Check.times(" ", 480 - names.length()), -1);
+    }
+
+    /** A word or number ends with the text, whatever stood there before. */
+    private static void ends() {
+        SegmentBench bench = Check.type(new SegmentBench(), Check.times("6", 480));
+        Check.thrown("digits", () -> bench.assemble(0), UnsupportedOperationException.class);
+        Check.type(bench, "seg c 1;word 6553");
+        Check.thrown("a number", () -> bench.assemble(0), UnsupportedOperationException.class);
+        Check.due("its end", () -> bench.count(2), 17);
+        Check.type(bench, Check.times(" ", 471) + "seg abcde");
+        Check.thrown("a name", () -> bench.assemble(0), UnsupportedOperationException.class);
+        Check.due("the text's end", () -> bench.count(2), 480);
+        Check.type(bench, Check.times(" ", 470) + "seg c 1655");
+        Check.thrown("an align", () -> bench.assemble(0), UnsupportedOperationException.class);
+        Check.due("its place", () -> bench.count(2), 476);
     }
 
     /** -1: a name is wrong; -2: the syntax is. */
