@@ -708,12 +708,12 @@ public final class SegmentBench {
             ARITHMETIC, ARITHMETIC, ARITHMETIC, STEP, STEP, PUSH, POP, SINGLE, SINGLE, SINGLE,
             SINGLE, SINGLE, JUMP, BRANCH, BRANCH, BRANCH, BRANCH, BRANCH, BRANCH, BRANCH,
             CALL, FAR_CALL, PLAIN, PLAIN, INT, PLAIN};
-        /** The n of arithmetic, 256 k and the byte of a single one, else the byte. */
+        /** The n of arithmetic, 256 k and the byte of a single one, else the byte; 0 where Layout has it. */
         private static final int[] CODE = {
             0, 0, 0, 0, 0, 0, 0, 0, 1, 4,
             5, 6, 7, 64, 72, 80, 88, 256 * 4 + 209, 256 * 5 + 209, 256 * 3 + 247,
-            256 * 4 + 247, 256 * 6 + 247, 235, 114, 115, 116, 117, 120, 121, 226,
-            232, 154, 195, 203, 205, 244};
+            256 * 4 + 247, 256 * 6 + 247, 0, 114, 115, 116, 117, 120, 121, 226,
+            0, 0, 195, 203, 205, 244};
 
         private final Tokens tokens;
         private final Draft draft;
