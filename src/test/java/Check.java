@@ -1,8 +1,23 @@
+import java.util.ArrayList;
+import java.util.List;
+import java.util.NoSuchElementException;
+
 /** What the tests share: they compare answers, count the wrong ones, and type texts. */
 final class Check {
     interface Call {
         long answer();
     }
+
+    /** Makes an object by the same calls each time, for what is promised ends with the 512th call. */
+    interface Maker {
+        SegmentBench make();
+    }
+
+    interface Step {
+        long on(SegmentBench bench);
+    }
+
+    private static final int READINGS_OF_ONE = 200;
 
     private static int wrong = 0;
 
@@ -123,6 +138,94 @@ final class Check {
     static void failure(String what, SegmentBench bench, int kind, int place) {
         due(what + ": kind", () -> bench.count(1), kind);
         due(what + ": place", () -> bench.count(2), place);
+    }
+
+    /** The text can't go on at place. */
+    static void stops(String text, int place) {
+        fails(text, UnsupportedOperationException.class, 1, place);
+    }
+
+    /** The first wrong name of the text stands at place. */
+    static void wrong(String text, int place) {
+        fails(text, NoSuchElementException.class, 2, place);
+    }
+
+    static void assembles(String text, int bytes) {
+        SegmentBench bench = type(new SegmentBench(), text);
+        due("assemble " + text, () -> bench.assemble(0), bytes);
+        failure("after " + text, bench, -1, -1);
+    }
+
+    /** The text becomes a module, whatever bytes it has. */
+    static void isRight(String text) {
+        SegmentBench bench = type(new SegmentBench(), text);
+        same("assemble " + text, told(bench, x -> Math.min(x.assemble(0), 0)), "0");
+        failure("after " + text, bench, -1, -1);
+    }
+
+    private static String told(SegmentBench bench, Step step) {
+        return told(() -> step.on(bench));
+    }
+
+    /** The call throws, and leaves all that can be read as it was, but for these numbers of count. */
+    static void changesNothing(String what, Maker maker, Step refused, Class<? extends RuntimeException> want,
+            int... but) {
+        thrown(what, () -> refused.on(maker.make()), want);
+        sameState(what, maker, bench -> told(bench, refused).length(), but);
+    }
+
+    /** All that can be read is the same with the step and without it, but for these numbers of count. */
+    static void sameState(String what, Maker maker, Step step, int... but) {
+        List<Step> readings = readings(but);
+        for (int from = 0; from < readings.size(); from += READINGS_OF_ONE) {
+            SegmentBench without = maker.make();
+            SegmentBench with = maker.make();
+            step.on(with);
+            for (int i = from; i < Math.min(from + READINGS_OF_ONE, readings.size()); i++) {
+                same(what + ": reading " + i, told(with, readings.get(i)), told(without, readings.get(i)));
+            }
+        }
+    }
+
+    private static List<Step> readings(int[] but) {
+        List<Step> all = new ArrayList<>();
+        for (int i = 0; i < 14; i++) {
+            int what = i;
+            if (java.util.Arrays.stream(but).noneMatch(n -> n == what)) {
+                all.add(x -> x.count(what));
+            }
+        }
+        for (int i = 0; i < 4096; i++) {
+            int at = i;
+            all.add(x -> x.memory(at));
+            if (at <= 1200) {
+                all.add(x -> x.image(at));
+            }
+            if (at <= 30) {
+                all.add(x -> x.trace(at));
+            }
+            if (at < 16) {
+                all.add(x -> x.register(at));
+            }
+        }
+        for (int m = 0; m < 3; m++) {
+            addModule(all, m);
+        }
+        return all;
+    }
+
+    private static void addModule(List<Step> all, int m) {
+        for (int i = 0; i < 40; i++) {
+            int at = i;
+            for (int s = 0; s < 3; s++) {
+                int segment = s;
+                all.add(x -> x.code(m, segment, at));
+            }
+            for (int w = 0; w < 4; w++) {
+                int what = w;
+                all.add(x -> x.fixup(m, at, what));
+            }
+        }
     }
 
     static String times(String piece, int n) {

@@ -46,9 +46,12 @@ public final class FaceTest {
             Check.due("new count " + i, () -> bench.count(what), counts[i]);
         }
         Check.same("new registers", Check.registers(bench, 0, 16), "0 0 0 0 0 0 0 0 0 0 0 0 0 0 0 0");
-        for (int i = 0; i < 4096; i++) {
-            int at = i;
-            Check.due("new memory " + i, () -> bench.memory(at), 0);
+        for (int from = 0; from < 4096; from += 256) {
+            SegmentBench other = new SegmentBench();
+            for (int i = from; i < from + 256; i++) {
+                int at = i;
+                Check.due("new memory " + i, () -> other.memory(at), 0);
+            }
         }
         Check.thrown("new image", () -> bench.image(0), IndexOutOfBoundsException.class);
         Check.thrown("new trace", () -> bench.trace(0), IndexOutOfBoundsException.class);
