@@ -213,6 +213,8 @@ public final class ByteEdgesTest {
         fixed(both + "call e;", "2/0/2/-1");
         fixed(both + "callf x;", "0/0/2/0 1/0/4/0");
         fixed(both + "callf e;", "0/0/2/-1 1/0/4/-1");
+        fixed(both + "word @x;neg [x];mov ax,@x;mov ax,[x];add [x],@x;add [x],x;word @x,x;",
+                "1/0/1/0 0/0/5/0 1/0/8/0 0/0/12/0 0/0/16/0 1/0/18/0 0/0/22/0 0/0/24/0 1/0/26/0 0/0/28/0");
         fixed(both + "seg d 1;ret;ret;callf x;word x,d;", "0/1/3/0 1/1/5/0 0/1/7/0 0/1/9/1");
     }
 

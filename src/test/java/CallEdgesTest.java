@@ -32,6 +32,7 @@ public final class CallEdgesTest {
         readsChangeNothing();
         kindAndPlaceStay();
         objectsApart();
+        all512Calls();
         Check.end();
     }
 
@@ -226,7 +227,8 @@ public final class CallEdgesTest {
         String spaces = ";" + Check.times("space 64;", 6);
         Check.type(bench, spaces).assemble(2);
         Check.type(bench, "seg y 1;public f;f:" + spaces.substring(1)).assemble(1);
-        Check.type(bench, "seg c 1;public main;main:" + spaces + "seg w 1;ret;seg v 1;ret;seg u 1;ret;seg t 1;ret;").assemble(0);
+        Check.type(bench, "seg c 1;public main;main:" + spaces + "seg w 1;ret;seg v 1;ret;seg u 1;ret;seg t 1;ret;")
+                .assemble(0);
         return bench;
     }
 
@@ -269,7 +271,8 @@ public final class CallEdgesTest {
     /** "the IMAGE from byte 16 times paragraph on (modulo 4096)" */
     private static void loadPlaces() {
         for (int paragraph : new int[] {0, 1, 200, 254, 255}) {
-            SegmentBench bench = Check.modules("seg b 1;byte 1,2,3;word @c;space 20;byte 9;seg c 1;ret;public main;main:hlt;");
+            SegmentBench bench = Check.modules("seg b 1;byte 1,2,3;word @c;space 20;byte 9;"
+                    + "seg c 1;ret;public main;main:hlt;");
             Check.due("link", () -> bench.link(), 34);
             Check.due("load " + paragraph, () -> bench.load(paragraph), 1);
             int base = 16 * paragraph;
@@ -282,6 +285,12 @@ public final class CallEdgesTest {
             Check.same("registers", Check.registers(bench, 0, 16), "0 0 0 0 0 0 0 0 " + paragraph + " "
                     + (paragraph + 2) + " " + paragraph + " " + paragraph + " 1 0 0 0");
             Check.same("counts", bench.count(5) + " " + bench.count(6) + " " + bench.count(7), "0 0 0");
+        }
+        for (String flags : new String[] {"cmp ax,0;", "cmp ax,1;", "mov ax,1;shr ax;"}) {
+            SegmentBench bench = Check.loaded("seg c 1;public main;main:" + flags + "hlt;", 9);
+            bench.run(9);
+            bench.load(9);
+            Check.same("flags behind " + flags, Check.registers(bench, 13, 16), "0 0 0");
         }
         SegmentBench split = Check.modules("seg c 1;public main;main:space 15;word @c;");
         split.link();
@@ -467,5 +476,22 @@ public final class CallEdgesTest {
         two.append(59, 1);
         two.assemble(0);
         Check.same("one", one.count(0) + " " + one.count(3) + " " + one.count(8) + " " + one.count(7), "7 38 2 0");
+    }
+
+    /** "An object is used for at most 512 calls after it has been made": the 512th is answered like the first. */
+    private static void all512Calls() {
+        SegmentBench texts = new SegmentBench();
+        for (int round = 1; round <= 8; round++) {
+            Check.type(texts, Check.times("seg a 1;", 59) + "int " + round + "; ;");
+            Check.due("assemble " + round, () -> texts.assemble(0), 2);
+            int told = round;
+            Check.due("its byte", () -> texts.code(0, 0, 1), told);
+        }
+        int typed = 5;
+        SegmentBench runs = Check.loaded("seg c 1;public main;main:jmp main;", 0);
+        for (int call = typed + 4; call <= 511; call++) {
+            Check.due("call " + call, () -> runs.run(400), 3);
+        }
+        Check.due("call 512", () -> runs.count(5), 400 * (511 - typed - 3));
     }
 }

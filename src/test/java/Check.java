@@ -228,6 +228,15 @@ final class Check {
         }
     }
 
+    /** Statements of n bytes, all 0. */
+    static String space(int n) {
+        StringBuilder text = new StringBuilder();
+        for (int left = n; left > 0; left -= 64) {
+            text.append("space ").append(Math.min(left, 64)).append(';');
+        }
+        return text.toString();
+    }
+
     static String times(String piece, int n) {
         return piece.repeat(n);
     }

@@ -281,7 +281,8 @@ public final class FlowEdgesTest {
     /** "nothing is done, IP is that of its first byte" */
     private static void undefinedDoesNothing() {
         String[] texts = {"byte 255;", "byte 0;", "byte 129,211,5,0;", "byte 199,203,5,0;", "byte 209,195;",
-            "byte 209,7;", "byte 247,195;", "byte 140,227;", "byte 142,203;", "byte 142,227;", "byte 15;", "byte 247,135,1,0;"};
+            "byte 209,7;", "byte 247,195;", "byte 140,227;", "byte 142,203;", "byte 142,227;", "byte 15;",
+            "byte 247,135,1,0;"};
         for (String text : texts) {
             String set = "mov bx,600;mov sp,300;mov [bx],772;cmp ax,1;";
             SegmentBench bench = bench(set + text);

@@ -286,6 +286,13 @@ public final class GrammarEdgesTest {
         Check.stops("extern e; e:;", 10);
         Check.stops("seg c 3;x:;", 6);
         Check.assembles("seg c 1;x:ret;", 1);
+        SegmentBench bench = Check.modules("seg c 1;x:ret;");
+        for (String text : new String[] {"x:;", "ret;", "seg c 1;inc;", "x:;", "word 1;"}) {
+            Check.type(bench, text);
+            Check.thrown("a seg of the text before is none: " + text, () -> bench.assemble(0),
+                    UnsupportedOperationException.class);
+            Check.due("place", () -> bench.count(2), text.startsWith("seg") ? 11 : 0);
+        }
     }
 
     /** "its length if something is missing at the end" */

@@ -10,6 +10,7 @@ public final class LinkEdgesTest {
         nextMultipleOf16();
         orderOfParts();
         zerosBetween();
+        madeAnew();
         publicTwice();
         unsolved();
         noMain();
@@ -21,14 +22,6 @@ public final class LinkEdgesTest {
         nearFixups();
         modulesThatAreNotThere();
         Check.end();
-    }
-
-    private static String space(int n) {
-        StringBuilder text = new StringBuilder();
-        for (int left = n; left > 0; left -= 64) {
-            text.append("space ").append(Math.min(left, 64)).append(';');
-        }
-        return text.toString();
     }
 
     private static void links(int bytes, String... texts) {
@@ -57,7 +50,7 @@ public final class LinkEdgesTest {
         for (int align : new int[] {1, 2, 4, 8, 16}) {
             for (int before : new int[] {0, 1, align - 1, align, align + 1, 31, 32, 33}) {
                 int begin = (before + align - 1) / align * align;
-                SegmentBench bench = Check.modules("seg c 1;public main;main:;" + space(before),
+                SegmentBench bench = Check.modules("seg c 1;public main;main:;" + Check.space(before),
                         "seg c " + align + ";byte 9;x:word x;");
                 Check.due("align " + align + " behind " + before, () -> bench.link(), begin + 3);
                 Check.due("its byte", () -> bench.image(begin), 9);
@@ -65,7 +58,7 @@ public final class LinkEdgesTest {
             }
         }
         links(17, MAIN, null, "seg c 16;ret;");
-        links(16, "seg c 16;public main;main:" + space(16), "seg c 16;");
+        links(16, "seg c 16;public main;main:" + Check.space(16), "seg c 16;");
         links(16, MAIN, "seg c 16;");
         links(4, MAIN, "seg c 2;byte 1;", "seg c 1;byte 1;");
         links(5, MAIN, "seg c 1;byte 1;", "seg c 4;byte 1;");
@@ -75,7 +68,7 @@ public final class LinkEdgesTest {
     private static void nextMultipleOf16() {
         for (int before : new int[] {0, 1, 15, 16, 17, 31, 32, 33, 255, 256, 257}) {
             int place = (before + 15) / 16 * 16;
-            SegmentBench bench = Check.modules("seg a 1;" + space(before) + "seg b 1;byte 7;public main;main:hlt;");
+            SegmentBench bench = Check.modules("seg a 1;" + Check.space(before) + "seg b 1;byte 7;public main;main:hlt;");
             Check.due("behind " + before, () -> bench.link(), place + 2);
             Check.due("its byte", () -> bench.image(place), 7);
             Check.due("main", () -> bench.load(0), 1);
@@ -83,7 +76,7 @@ public final class LinkEdgesTest {
         }
         links(0, "seg a 1;seg b 1;public main;main:seg d 16;");
         links(16, "seg a 1;ret;public main;main:seg b 1;");
-        links(32, "seg a 1;ret;public main;main:seg b 1;" + space(16));
+        links(32, "seg a 1;ret;public main;main:seg b 1;" + Check.space(16));
         links(33, "seg a 1;ret;public main;main:seg b 1;ret;seg d 1;ret;");
     }
 
@@ -102,7 +95,8 @@ public final class LinkEdgesTest {
         Check.due("without 1", () -> bench.link(), 33);
         Check.same("a", Check.image(bench, 0, 5), "1 7 6 0 0");
         Check.same("b", Check.image(bench, 32, 33), "5");
-        SegmentBench first = Check.modules("seg a 1;seg b 1;seg a 1;byte 1;", "seg d 1;byte 4;seg b 1;byte 2;public main;main:;");
+        SegmentBench first = Check.modules("seg a 1;seg b 1;seg a 1;byte 1;",
+                "seg d 1;byte 4;seg b 1;byte 2;public main;main:;");
         Check.due("an empty one is first, too", () -> first.link(), 33);
         Check.same("a", Check.image(first, 0, 1), "1");
         Check.same("b", Check.image(first, 16, 17), "2");
@@ -123,6 +117,19 @@ public final class LinkEdgesTest {
             int at = i;
             Check.due("memory " + i, () -> bench.memory(at), 0);
         }
+    }
+
+    /** A module that is made anew leaves nothing of what it was. */
+    private static void madeAnew() {
+        SegmentBench bench = Check.modules("seg a 1;public main;main:byte 1,1,1;",
+                "seg e 1;ret;seg a 1;x:word x,@x;public y;y:;");
+        Check.due("link", () -> bench.link(), 17);
+        Check.type(bench, "seg a 1;public main;main:byte 1,2,3,4,5,6,7,8,9;public y;y:;").assemble(0);
+        Check.type(bench, "seg e 1;byte 77;").assemble(1);
+        Check.due("link", () -> bench.link(), 17);
+        Check.same("image", Check.image(bench, 0, 17), "1 2 3 4 5 6 7 8 9 0 0 0 0 0 0 0 77");
+        Check.same("relocations, segments, fixups", bench.count(4) + " " + bench.count(9) + " " + bench.count(12), "0 1 0");
+        Check.thrown("the second segment", () -> bench.code(1, 1, 0), IndexOutOfBoundsException.class);
     }
 
     /** "KIND 5: a NAME is PUBLIC in an earlier one, too (the least later MODULE)" */
@@ -170,6 +177,8 @@ public final class LinkEdgesTest {
         fails(8, -1, NoSuchElementException.class, "extern main;seg c 1;hlt;");
         fails(8, -1, NoSuchElementException.class, "seg c 1;public mai;mai:;public main1;main1:;public amain;amain:;");
         links(1, null, MAIN);
+        links(1, "public main;seg c 1;main:hlt;");
+        links(1, "seg c 1;main:hlt;public main;");
         links(1, "", "", MAIN);
         fails(6, 0, NoSuchElementException.class, "extern main;seg c 1;word main;");
     }
@@ -178,21 +187,21 @@ public final class LinkEdgesTest {
     private static void tooLong() {
         Class<? extends RuntimeException> want = IndexOutOfBoundsException.class;
         String main = "seg c 1;public main;main:";
-        String full = space(400);
+        String full = Check.space(400);
         links(MOST, main + full, "seg c 1;" + full, "seg c 1;" + full);
         links(MOST, main + full, "seg d 16;" + full, "seg e 16;" + full);
-        links(MOST, main + space(399), "seg c 2;" + full, "seg c 1;" + full);
+        links(MOST, main + Check.space(399), "seg c 2;" + full, "seg c 1;" + full);
         for (int last = 14; last <= 17; last++) {
-            String first = main + space(383) + "seg d 1;" + space(last);
+            String first = main + Check.space(383) + "seg d 1;" + Check.space(last);
             if (last <= 16) {
                 links(1184 + last, first, "seg c 1;" + full, "seg c 1;" + full);
             } else {
                 fails(9, -1, want, first, "seg c 1;" + full, "seg c 1;" + full);
             }
         }
-        fails(9, -1, want, main + full, "seg c 1;" + full, "seg c 1;" + space(399) + "seg d 1;byte 1;");
-        links(MOST, main + space(384) + "seg d 1;byte 1;", "seg e 1;" + full, "seg f 1;" + full);
-        fails(9, -1, want, main + space(385) + "seg d 1;byte 1;", "seg e 1;" + full, "seg f 1;" + full);
+        fails(9, -1, want, main + full, "seg c 1;" + full, "seg c 1;" + Check.space(399) + "seg d 1;byte 1;");
+        links(MOST, main + Check.space(384) + "seg d 1;byte 1;", "seg e 1;" + full, "seg f 1;" + full);
+        fails(9, -1, want, main + Check.space(385) + "seg d 1;byte 1;", "seg e 1;" + full, "seg f 1;" + full);
     }
 
     /** "7: a FIXUP of KIND 2 whose PUBLIC lies in another COMBINED SEGMENT than itself (the least MODULE)" */
@@ -215,9 +224,9 @@ public final class LinkEdgesTest {
         int[] places = {2, 0, -1, -1, 0};
         for (int set = 0; set < 32; set++) {
             String first = "extern x;extern q;seg c 1;" + (has(set, 2) ? "" : "public main;") + "main:"
-                    + (has(set, 4) ? "jmp x;" : "word x;ret;") + (has(set, 1) ? "word q;" : "ret;ret;") + space(390);
-            String second = "seg d 1;public x;x:" + space(390);
-            String third = "seg e 1;" + (has(set, 0) ? "public x;" : "") + "x:" + space(390)
+                    + (has(set, 4) ? "jmp x;" : "word x;ret;") + (has(set, 1) ? "word q;" : "ret;ret;") + Check.space(390);
+            String second = "seg d 1;public x;x:" + Check.space(390);
+            String third = "seg e 1;" + (has(set, 0) ? "public x;" : "") + "x:" + Check.space(390)
                     + (has(set, 3) ? "seg f 1;byte 1;" : "");
             int told = Integer.numberOfTrailingZeros(set);
             if (set == 0) {
@@ -247,7 +256,7 @@ public final class LinkEdgesTest {
 
     /** "0: to the two bytes is added where the part begins .., or for an EXTERN the OFFSET of the PUBLIC there" */
     private static void offsetFixups() {
-        SegmentBench bench = Check.modules("seg c 1;public main;main:" + space(300),
+        SegmentBench bench = Check.modules("seg c 1;public main;main:" + Check.space(300),
                 "seg c 1;x:word x,c;neg [x+65535];neg [bx+c-1];ret;public y;y:word y;",
                 "extern y;seg d 1;ret;z:word z,d,y;neg [y-314];neg [si+y+65535];seg c 2;word z,d,c;");
         Check.due("link", () -> bench.link(), 351);
@@ -259,7 +268,8 @@ public final class LinkEdgesTest {
 
     /** "1: the COMBINED SEGMENT's place in the IMAGE / 16, and it is a RELOCATION" */
     private static void paragraphFixups() {
-        SegmentBench bench = Check.modules("seg a 1;" + space(17) + "seg c 1;public main;main:word @a,@c,@main,@x;extern x;",
+        SegmentBench bench = Check.modules(
+                "seg a 1;" + Check.space(17) + "seg c 1;public main;main:word @a,@c,@main,@x;extern x;",
                 "seg e 1;ret;seg c 4;public x;x:word @e,@x,@c;");
         Check.due("link", () -> bench.link(), 49);
         Check.same("paragraphs", Check.image(bench, 32, 46), "0 0 2 0 2 0 2 0 3 0 2 0 2 0");
@@ -282,7 +292,8 @@ public final class LinkEdgesTest {
         Check.due("link", () -> back.link(), 3);
         Check.same("-3", Check.image(back, 0, 3), "232 253 255");
         SegmentBench far = Check.modules("seg c 1;public b;b:ret;public main;main:hlt;",
-                "extern b;extern f;seg c 4;jmp b;call f;jmp f;", "extern b;seg c 1;" + space(256) + "public f;f:jmp b;");
+                "extern b;extern f;seg c 4;jmp b;call f;jmp f;",
+                "extern b;seg c 1;" + Check.space(256) + "public f;f:jmp b;");
         Check.due("link", () -> far.link(), 272);
         Check.same("over parts", Check.image(far, 0, 13), "195 244 0 0 233 249 255 232 3 1 233 0 1");
         Check.same("to the first", Check.image(far, 269, 272), "233 240 254");

@@ -210,5 +210,10 @@ public final class NameEdgesTest {
         Check.failure("x is gone", bench, 2, 13);
         Check.type(bench, "seg c 16;e:;");
         Check.due("all new", () -> bench.assemble(0), 0);
+        Check.type(bench, names(MOST + 1));
+        Check.thrown("too many", () -> bench.assemble(0), java.util.NoSuchElementException.class);
+        Check.failure("too many", bench, 2, names(MOST).length());
+        Check.type(bench, names(MOST));
+        Check.due("none of those counts", () -> bench.assemble(0), 0);
     }
 }

@@ -18,15 +18,6 @@ public final class SizingEdgesTest {
         Check.end();
     }
 
-    /** Statements of n bytes, all 0. */
-    private static String space(int n) {
-        StringBuilder text = new StringBuilder();
-        for (int left = n; left > 0; left -= 64) {
-            text.append("space ").append(Math.min(left, 64)).append(';');
-        }
-        return text.toString();
-    }
-
     private static void far(String text, int place) {
         Check.fails(text, ArithmeticException.class, 3, place);
     }
@@ -47,33 +38,33 @@ public final class SizingEdgesTest {
     private static void branches() {
         for (int i = 0; i < BRANCHES.length; i++) {
             String word = BRANCHES[i];
-            SegmentBench on = Check.modules(SEG + word + " x;" + space(127) + "x:;");
+            SegmentBench on = Check.modules(SEG + word + " x;" + Check.space(127) + "x:;");
             Check.same(word + " 127", some(on, 0, 2), CODES[i] + " 127");
-            SegmentBench back = Check.modules(SEG + "x:" + space(126) + word + " x;");
+            SegmentBench back = Check.modules(SEG + "x:" + Check.space(126) + word + " x;");
             Check.same(word + " -128", some(back, 126, 128), CODES[i] + " 128");
             SegmentBench next = Check.modules(SEG + word + " x;x:" + word + " x;");
             Check.same(word + " 0 and -2", some(next, 0, 4), CODES[i] + " 0 " + CODES[i] + " 254");
-            far(SEG + word + " x;" + space(128) + "x:;", 8);
-            far(SEG + "x:" + space(127) + word + " x;", 10 + space(127).length());
-            far(SEG + "y: " + word + " x;" + space(300) + "x:;", 11);
+            far(SEG + word + " x;" + Check.space(128) + "x:;", 8);
+            far(SEG + "x:" + Check.space(127) + word + " x;", 10 + Check.space(127).length());
+            far(SEG + "y: " + word + " x;" + Check.space(300) + "x:;", 11);
         }
     }
 
     /** "so that each other one's D is -128 .. 127" */
     private static void shortOrNear() {
-        SegmentBench on = Check.modules(SEG + "jmp x;" + space(127) + "x:;");
+        SegmentBench on = Check.modules(SEG + "jmp x;" + Check.space(127) + "x:;");
         Check.same("127", some(on, 0, 2), "235 127");
-        SegmentBench beyond = Check.modules(SEG + "jmp x;" + space(128) + "x:;");
+        SegmentBench beyond = Check.modules(SEG + "jmp x;" + Check.space(128) + "x:;");
         Check.same("128", some(beyond, 0, 3), "233 128 0");
-        SegmentBench back = Check.modules(SEG + "x:" + space(126) + "jmp x;");
+        SegmentBench back = Check.modules(SEG + "x:" + Check.space(126) + "jmp x;");
         Check.same("-128", some(back, 126, 128), "235 128");
-        SegmentBench before = Check.modules(SEG + "x:" + space(127) + "jmp x;");
+        SegmentBench before = Check.modules(SEG + "x:" + Check.space(127) + "jmp x;");
         Check.same("-129, and then -130", some(before, 127, 130), "233 126 255");
         Check.assembles(SEG + "x:jmp x;", 2);
         Check.assembles(SEG + "jmp x;x:;", 2);
-        SegmentBench far = Check.modules(SEG + "x:" + space(397) + "jmp x;");
+        SegmentBench far = Check.modules(SEG + "x:" + Check.space(397) + "jmp x;");
         Check.same("-400", some(far, 397, 400), "233 112 254");
-        SegmentBench ahead = Check.modules(SEG + "jmp x;" + space(397) + "x:;");
+        SegmentBench ahead = Check.modules(SEG + "jmp x;" + Check.space(397) + "x:;");
         Check.same("397", some(ahead, 0, 3), "233 141 1");
     }
 
@@ -83,96 +74,96 @@ public final class SizingEdgesTest {
         Check.same("near", some(bench, 0, 5), "233 0 0 235 0");
         SegmentBench later = Check.modules(SEG + "jmp e;extern e;");
         Check.same("near", some(later, 0, 3), "233 0 0");
-        Check.assembles("extern e;" + SEG + "jmp x;jmp e;" + space(124) + "x:;", 129);
-        Check.assembles("extern e;" + SEG + "jmp x;jmp e;" + space(125) + "x:;", 131);
+        Check.assembles("extern e;" + SEG + "jmp x;jmp e;" + Check.space(124) + "x:;", 129);
+        Check.assembles("extern e;" + SEG + "jmp x;jmp e;" + Check.space(125) + "x:;", 131);
     }
 
     /** A call has two bytes for any distance and pushes others apart by its three. */
     private static void calls() {
-        SegmentBench on = Check.modules(SEG + "call x;" + space(397) + "x:;");
+        SegmentBench on = Check.modules(SEG + "call x;" + Check.space(397) + "x:;");
         Check.same("397", some(on, 0, 3), "232 141 1");
-        SegmentBench back = Check.modules(SEG + "x:" + space(397) + "call x;");
+        SegmentBench back = Check.modules(SEG + "x:" + Check.space(397) + "call x;");
         Check.same("-400", some(back, 397, 400), "232 112 254");
         SegmentBench self = Check.modules(SEG + "x:call x;");
         Check.same("-3", some(self, 0, 3), "232 253 255");
-        Check.assembles(SEG + "jz x;call x;" + space(124) + "x:;", 129);
-        far(SEG + "jz x;call x;" + space(125) + "x:;", 8);
-        Check.assembles(SEG + "jz x;callf x;" + space(122) + "x:;", 129);
-        far(SEG + "jz x;callf x;" + space(123) + "x:;", 8);
+        Check.assembles(SEG + "jz x;call x;" + Check.space(124) + "x:;", 129);
+        far(SEG + "jz x;call x;" + Check.space(125) + "x:;", 8);
+        Check.assembles(SEG + "jz x;callf x;" + Check.space(122) + "x:;", 129);
+        far(SEG + "jz x;callf x;" + Check.space(123) + "x:;", 8);
     }
 
     /** "as few others as can be" */
     private static void asFewAsCanBe() {
-        Check.assembles(SEG + "a:jmp b;" + space(124) + "b:jmp a;", 128);
-        Check.assembles(SEG + "a:jmp b;" + space(125) + "b:jmp a;", 2 + 125 + 3);
-        Check.assembles(SEG + "a:jmp b;" + space(127) + "b:jmp a;", 2 + 127 + 3);
-        Check.assembles(SEG + "a:jmp b;" + space(128) + "b:jmp a;", 3 + 128 + 3);
-        Check.assembles(SEG + "jmp a;jmp b;" + space(125) + "a:;" + space(2) + "b:;", 2 + 2 + 127);
-        Check.assembles(SEG + "jmp a;jmp b;" + space(125) + "a:;" + space(3) + "b:;", 3 + 3 + 128);
-        Check.assembles(SEG + "jmp a;jmp b;" + space(124) + "a:;" + space(4) + "b:;", 2 + 3 + 128);
+        Check.assembles(SEG + "a:jmp b;" + Check.space(124) + "b:jmp a;", 128);
+        Check.assembles(SEG + "a:jmp b;" + Check.space(125) + "b:jmp a;", 2 + 125 + 3);
+        Check.assembles(SEG + "a:jmp b;" + Check.space(127) + "b:jmp a;", 2 + 127 + 3);
+        Check.assembles(SEG + "a:jmp b;" + Check.space(128) + "b:jmp a;", 3 + 128 + 3);
+        Check.assembles(SEG + "jmp a;jmp b;" + Check.space(125) + "a:;" + Check.space(2) + "b:;", 2 + 2 + 127);
+        Check.assembles(SEG + "jmp a;jmp b;" + Check.space(125) + "a:;" + Check.space(3) + "b:;", 3 + 3 + 128);
+        Check.assembles(SEG + "jmp a;jmp b;" + Check.space(124) + "a:;" + Check.space(4) + "b:;", 2 + 3 + 128);
         // The last one grows by itself, and each before it because the one behind it has.
-        String chain = "jmp a;jmp b;jmp d;" + space(123) + "a:;" + space(2) + "b:;";
-        Check.assembles(SEG + chain + space(2) + "d:;", 2 + 2 + 2 + 127);
-        Check.assembles(SEG + chain + space(3) + "d:;", 3 + 3 + 3 + 128);
+        String chain = "jmp a;jmp b;jmp d;" + Check.space(123) + "a:;" + Check.space(2) + "b:;";
+        Check.assembles(SEG + chain + Check.space(2) + "d:;", 2 + 2 + 2 + 127);
+        Check.assembles(SEG + chain + Check.space(3) + "d:;", 3 + 3 + 3 + 128);
         // The same the other way round.
-        String back = "a:" + space(2) + "b:" + space(2) + "d:" + space(120) + "jmp d;jmp b;";
+        String back = "a:" + Check.space(2) + "b:" + Check.space(2) + "d:" + Check.space(120) + "jmp d;jmp b;";
         Check.assembles(SEG + back + "e:;", 2 + 2 + 120 + 2 + 2);
         Check.assembles(SEG + back + "jmp a;", 2 + 2 + 120 + 2 + 2 + 3);
-        Check.assembles(SEG + "a:" + space(1) + "b:" + space(126) + "jmp b;jmp a;", 127 + 2 + 3);
+        Check.assembles(SEG + "a:" + Check.space(1) + "b:" + Check.space(126) + "jmp b;jmp a;", 127 + 2 + 3);
     }
 
     private static void ownSegmentAlone() {
-        Check.assembles(SEG + "jmp x;seg d 1;" + space(200) + "seg c 1;x:;", 202);
-        Check.assembles(SEG + "jmp x;" + space(127) + "seg d 1;" + space(100) + "seg c 1;x:;", 229);
-        Check.assembles(SEG + "jmp x;" + space(127) + "seg d 1;" + space(100) + "seg c 1;ret;x:;", 231);
-        Check.assembles(SEG + "jz x;" + space(100) + "seg d 1;" + space(100) + "seg c 1;" + space(27) + "x:;", 229);
-        far(SEG + "jz x;" + space(100) + "seg d 1;" + space(100) + "seg c 1;" + space(28) + "x:;", 8);
+        Check.assembles(SEG + "jmp x;seg d 1;" + Check.space(200) + "seg c 1;x:;", 202);
+        Check.assembles(SEG + "jmp x;" + Check.space(127) + "seg d 1;" + Check.space(100) + "seg c 1;x:;", 229);
+        Check.assembles(SEG + "jmp x;" + Check.space(127) + "seg d 1;" + Check.space(100) + "seg c 1;ret;x:;", 231);
+        Check.assembles(SEG + "jz x;" + Check.space(100) + "seg d 1;" + Check.space(100) + "seg c 1;" + Check.space(27) + "x:;", 229);
+        far(SEG + "jz x;" + Check.space(100) + "seg d 1;" + Check.space(100) + "seg c 1;" + Check.space(28) + "x:;", 8);
     }
 
     /** "all SEGMENTS have more than 400 bytes: KIND 4" */
     private static void fourHundred() {
-        Check.assembles(SEG + space(400), 400);
-        many(SEG + space(401));
-        Check.assembles(SEG + space(399) + "ret;", 400);
-        many(SEG + space(400) + "ret;");
-        Check.assembles(SEG + space(200) + "seg d 16;" + space(200), 400);
-        many(SEG + space(200) + "seg d 16;" + space(201));
-        many(SEG + space(134) + "seg d 1;" + space(134) + "seg e 1;" + space(133));
-        Check.assembles(SEG + "x:" + space(397) + "jmp x;", 400);
-        many(SEG + "x:" + space(398) + "jmp x;");
-        Check.assembles(SEG + space(398) + "x:jmp x;", 400);
-        many(SEG + space(399) + "x:jmp x;");
-        Check.assembles(SEG + space(397) + "jmp e;extern e;", 400);
-        many(SEG + space(398) + "jmp e;extern e;");
-        many(SEG + space(3000));
-        SegmentBench bench = Check.modules(SEG + space(396) + "word 772,258;");
+        Check.assembles(SEG + Check.space(400), 400);
+        many(SEG + Check.space(401));
+        Check.assembles(SEG + Check.space(399) + "ret;", 400);
+        many(SEG + Check.space(400) + "ret;");
+        Check.assembles(SEG + Check.space(200) + "seg d 16;" + Check.space(200), 400);
+        many(SEG + Check.space(200) + "seg d 16;" + Check.space(201));
+        many(SEG + Check.space(134) + "seg d 1;" + Check.space(134) + "seg e 1;" + Check.space(133));
+        Check.assembles(SEG + "x:" + Check.space(397) + "jmp x;", 400);
+        many(SEG + "x:" + Check.space(398) + "jmp x;");
+        Check.assembles(SEG + Check.space(398) + "x:jmp x;", 400);
+        many(SEG + Check.space(399) + "x:jmp x;");
+        Check.assembles(SEG + Check.space(397) + "jmp e;extern e;", 400);
+        many(SEG + Check.space(398) + "jmp e;extern e;");
+        many(SEG + Check.space(3000));
+        SegmentBench bench = Check.modules(SEG + Check.space(396) + "word 772,258;");
         Check.same("the last", some(bench, 396, 400), "4 3 2 1");
         Check.thrown("400", () -> bench.code(0, 0, 400), IndexOutOfBoundsException.class);
     }
 
     private static void manyBeforeFar() {
-        far(SEG + "jz x;" + space(398) + "x:;", 8);
-        many(SEG + "jz x;" + space(399) + "x:;");
-        many(SEG + space(401) + "jz x;" + space(128) + "x:;");
-        Check.wrong(SEG + "jz x;" + space(399) + "x:;word q;", 13 + space(399).length() + 8);
-        Check.stops(SEG + "jz x;" + space(399) + "x:;word q;inc;", 13 + space(399).length() + 13);
+        far(SEG + "jz x;" + Check.space(398) + "x:;", 8);
+        many(SEG + "jz x;" + Check.space(399) + "x:;");
+        many(SEG + Check.space(401) + "jz x;" + Check.space(128) + "x:;");
+        Check.wrong(SEG + "jz x;" + Check.space(399) + "x:;word q;", 13 + Check.space(399).length() + 8);
+        Check.stops(SEG + "jz x;" + Check.space(399) + "x:;word q;inc;", 13 + Check.space(399).length() + 13);
     }
 
     /** "at the WORD of the first such one" */
     private static void firstTooFar() {
-        far(SEG + "x:jz x;" + space(128) + " loop x;js x;", 15 + space(128).length() + 1);
-        far(SEG + "jz y;js x;y:jc x;" + space(128) + "x:;", 13);
-        far(SEG + "y:jmp x;l :  jc   x;" + space(130) + "x:;", 21);
-        far(SEG + "seg d 1;jz x;" + space(128) + "x:;seg c 1;jz y;" + space(128) + "y:;", 16);
+        far(SEG + "x:jz x;" + Check.space(128) + " loop x;js x;", 15 + Check.space(128).length() + 1);
+        far(SEG + "jz y;js x;y:jc x;" + Check.space(128) + "x:;", 13);
+        far(SEG + "y:jmp x;l :  jc   x;" + Check.space(130) + "x:;", 21);
+        far(SEG + "seg d 1;jz x;" + Check.space(128) + "x:;seg c 1;jz y;" + Check.space(128) + "y:;", 16);
         // A jmp that becomes near pushes the label of the jnz out of reach.
-        Check.assembles(SEG + "jnz x;jmp y;" + space(125) + "x:;y:;", 129);
-        Check.assembles(SEG + "jnz x;jmp y;" + space(125) + "x:;" + space(2) + "y:;", 131);
-        far(SEG + "jnz x;jmp y;" + space(125) + "x:;" + space(3) + "y:;", 8);
+        Check.assembles(SEG + "jnz x;jmp y;" + Check.space(125) + "x:;y:;", 129);
+        Check.assembles(SEG + "jnz x;jmp y;" + Check.space(125) + "x:;" + Check.space(2) + "y:;", 131);
+        far(SEG + "jnz x;jmp y;" + Check.space(125) + "x:;" + Check.space(3) + "y:;", 8);
     }
 
     /** A text that failed leaves nothing for the next one. */
     private static void nothingStaysBehind() {
-        SegmentBench bench = Check.type(new SegmentBench(), SEG + "x:" + space(398) + "jmp x;");
+        SegmentBench bench = Check.type(new SegmentBench(), SEG + "x:" + Check.space(398) + "jmp x;");
         Check.thrown("401", () -> bench.assemble(0), IndexOutOfBoundsException.class);
         Check.type(bench, SEG + "jmp x;ret;x:;");
         Check.due("three", () -> bench.assemble(0), 3);
