@@ -40,6 +40,7 @@ public final class ByteEdgesTest {
         due("space 0;ret;space 1;ret;space 2;", "195 0 195 0 0");
     }
 
+    /** "mov R, M 139, M r | mov MEMORY, R 137, M r | mov R, V 184 + r, V | .. mov R, S 140, M s" */
     private static void moves() {
         for (int r = 0; r < 8; r++) {
             for (int q = 0; q < 8; q++) {
@@ -83,6 +84,7 @@ public final class ByteEdgesTest {
         }
     }
 
+    /** "inc R 64 + r | dec R 72 + r | push R 80 + r | pop R 88 + r | push S 6 + 8 s | pop S (not cs) 7 + 8 s" */
     private static void singleRegisters() {
         for (int r = 0; r < 8; r++) {
             due("inc " + R[r] + ";dec " + R[r] + ";push " + R[r] + ";pop " + R[r] + ";",
@@ -97,6 +99,7 @@ public final class ByteEdgesTest {
         due("ret;retf;hlt;", "195 203 244");
     }
 
+    /** "shl M 209, M 4 | shr M 209, M 5 | neg M 247, M 3 | mul M 247, M 4 | div M 247, M 6" */
     private static void singles() {
         String[] words = {"shl", "shr", "neg", "mul", "div"};
         int[] codes = {209, 209, 247, 247, 247};
@@ -226,6 +229,7 @@ public final class ByteEdgesTest {
         fixed("seg c 1;ret;x:jmp y;word x;space 64;space 64;y:word y;", "0/0/4/0 0/0/134/0");
     }
 
+    /** "FIXUP i of a MODULE", the last one and the one behind it. */
     private static void lists() {
         SegmentBench bench = Check.modules("seg c 1;a:word a,a,a;");
         Check.due("three", () -> bench.count(11), 3);

@@ -173,6 +173,7 @@ public final class CallEdgesTest {
         Check.same("is a module", bench.count(9) + " " + bench.count(12) + " " + bench.drop(1), "0 0 true");
     }
 
+    /** "module 0 .. 2" */
     private static void dropRange() {
         refused("drop -1", x -> x.drop(-1) ? 1 : 0, ARGUMENT);
         refused("drop 3", x -> x.drop(3) ? 1 : 0, ARGUMENT);
@@ -200,6 +201,7 @@ public final class CallEdgesTest {
                 x -> x.drop(1) ? 1 : 0);
     }
 
+    /** "None is there: IllegalStateException", and a link that fails leaves the image and all else. */
     private static void linkFails() {
         Check.changesNothing("5", CallEdgesTest::twice, x -> x.link(), UnsupportedOperationException.class, 1, 2);
         Check.changesNothing("6", () -> dropped(1), x -> x.link(), NoSuchElementException.class, 1, 2);
@@ -246,6 +248,7 @@ public final class CallEdgesTest {
         return bench;
     }
 
+    /** "Else there is an IMAGE. Answers how many bytes." */
     private static void linkAnswers() {
         SegmentBench bench = rich();
         int bytes = bench.count(3);
@@ -304,6 +307,7 @@ public final class CallEdgesTest {
         return bench;
     }
 
+    /** "fuel 1 .. 400. It has HALTED: IllegalStateException." */
     private static void runRefused() {
         Check.changesNothing("a new object has halted", SegmentBench::new, x -> x.run(1), STATE);
         Check.changesNothing("the range is first", SegmentBench::new, x -> x.run(0), ARGUMENT);
@@ -361,6 +365,7 @@ public final class CallEdgesTest {
         }
     }
 
+    /** "Byte i of the IMAGE; there is none: IndexOutOfBoundsException" */
     private static void imageRange() {
         SegmentBench bench = rich();
         int size = bench.count(3);
@@ -405,6 +410,7 @@ public final class CallEdgesTest {
         Check.same("Z", Check.registers(zero, 13, 16), "0 1 0");
     }
 
+    /** "there is none: IndexOutOfBoundsException"; FlowEdgesTest has the 30th and the 31st. */
     private static void traceRange() {
         SegmentBench bench = rich();
         Check.due("0", () -> bench.trace(0), 7 * 65536 + 21);
@@ -429,6 +435,7 @@ public final class CallEdgesTest {
         }
     }
 
+    /** "A call that throws changes nothing", nor does one that only looks. */
     private static void readsChangeNothing() {
         Check.Step[] reads = {x -> x.code(0, 0, 0), x -> x.fixup(0, 1, 2), x -> x.image(5), x -> x.memory(77),
             x -> x.register(12), x -> x.trace(0), x -> x.count(7)};

@@ -74,6 +74,7 @@ public final class GrammarEdgesTest {
         Check.stops("seg c 1,2;", 7);
     }
 
+    /** "public NAME | extern NAME" */
     private static void oneName() {
         for (String word : new String[] {"public", "extern"}) {
             Check.stops(word + ";", 6);
@@ -177,6 +178,7 @@ public final class GrammarEdgesTest {
         Check.stops(X + word + ";", left - 1);
     }
 
+    /** "inc R", "push S", "pop S (not cs)", "shl M", "jmp NAME", "int NUMBER", "ret": by OPERANDS, which may stand. */
     private static void oneOperand() {
         String[][] rows = {{"inc dec", "ynnnnnn"}, {"push", "yyynnnn"}, {"pop", "yynnnnn"},
             {"shl shr neg mul div", "ynnynnn"}, {"jmp jc jnc jz jnz js jns loop call callf", "nnnnnyn"},
@@ -331,6 +333,7 @@ public final class GrammarEdgesTest {
         }
     }
 
+    /** The first one is told, whatever stands behind it. */
     private static void firstOfTwo() {
         Check.stops(SEG + "inc 5;inc 6;", 12);
         Check.stops(SEG + "ret;inc 5;#", 16);

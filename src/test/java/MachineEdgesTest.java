@@ -163,6 +163,7 @@ public final class MachineEdgesTest {
         Check.same("registers of " + text, Check.registers(after(text), 0, 4), registers);
     }
 
+    /** "neg: C is what is .. borrowed", from 0. */
     private static void negates() {
         for (int a : EDGES) {
             int result = -a & 65535;

@@ -112,6 +112,7 @@ public final class SizingEdgesTest {
         Check.assembles(SEG + "a:" + Check.space(1) + "b:" + Check.space(126) + "jmp b;jmp a;", 127 + 2 + 3);
     }
 
+    /** "the LABEL's OFFSET minus that behind the INSTRUCTION": other segments are not between. */
     private static void ownSegmentAlone() {
         Check.assembles(SEG + "jmp x;seg d 1;" + Check.space(200) + "seg c 1;x:;", 202);
         Check.assembles(SEG + "jmp x;" + Check.space(127) + "seg d 1;" + Check.space(100) + "seg c 1;x:;", 229);
@@ -141,6 +142,7 @@ public final class SizingEdgesTest {
         Check.thrown("400", () -> bench.code(0, 0, 400), IndexOutOfBoundsException.class);
     }
 
+    /** Promise 3 tells 1, 2, 4 and 3 in this order. */
     private static void manyBeforeFar() {
         far(SEG + "jz x;" + Check.space(398) + "x:;", 8);
         many(SEG + "jz x;" + Check.space(399) + "x:;");

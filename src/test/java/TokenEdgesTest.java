@@ -103,6 +103,7 @@ public final class TokenEdgesTest {
         Check.stops(SEG + "word @@x;", 14);
     }
 
+    /** "or sign that is none": every other sign, wherever it stands. */
     private static void signsThatAreNone() {
         for (char sign = 33; sign <= 126; sign++) {
             boolean isToken = sign >= 'a' && sign <= 'z' || sign >= '0' && sign <= '9' || SIGNS.indexOf(sign) >= 0;
